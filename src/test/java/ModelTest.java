@@ -283,7 +283,7 @@ public final class ModelTest {
         }
 
         private static String spoilt(String text, Random r) {
-            switch (r.nextInt(7)) {
+            switch (r.nextInt(9)) {
                 case 0:
                     return text.substring(0, r.nextInt(text.length() + 1));
                 case 1: {
@@ -311,6 +311,14 @@ public final class ModelTest {
                     String[] words = text.split(" ");
                     words[r.nextInt(words.length)] = words[r.nextInt(words.length)];
                     return String.join(" ", words);
+                }
+                case 6:
+                case 7: {
+                    int[] edges = {0, 1, 3, 4, 5, 8, 9, 10, 59, 60, 61, 99, 100, 101, 400, 401, 999, 1000};
+                    String[] parts = text.split("(?<=\\D)(?=\\d)");
+                    int i = 1 + r.nextInt(parts.length - 1);
+                    parts[i] = parts[i].replaceFirst("\\d+", "" + edges[r.nextInt(edges.length)]);
+                    return String.join("", parts);
                 }
                 default: {
                     StringBuilder more = new StringBuilder(text);

@@ -432,6 +432,10 @@ public final class PromiseTest {
         refused("11 too far", x, x.jerks(0, 5001), 2);
         refused("11 behind", x, x.jerks(0, -1), 2);
         refused("11 no wheel", x, x.jerks(-1, -1), 1);
+        BrassYear round = with("brass oil 0 slips 0;wheel a planet teeth 9 by 1 at 3;gone a 3;gone a 6");
+        due("11 a gone tooth left, one jerk", round.jerks(0, 7), 1);
+        due("11 a round with two jerks", round.jerks(0, 9), 2);
+        due("11 a round and a jerk", round.jerks(0, 10), 3);
         due("12 never again", x.comesRound(0), -2);
         due("12 moon", x.comesRound(1), 4);
         refused("12 oiled thimble", x, x.comesRound(2), 5);
@@ -669,6 +673,14 @@ public final class PromiseTest {
         BrassYear moon = with("brass oil 0 slips 0;wheel a moon teeth 9 by 2 at 1;suspect a;jerked day 1");
         due("28 moon", moon.fits(), 1);
         due("29 moon goes back", moon.fitAt(0), 8);
+        BrassYear late = with("brass oil 0 slips 0;wheel a bead teeth 50 by 1 at 2;suspect a");
+        due("30 teeth 2 and 3 are met on day 99, the others alone", late.look(), 99);
+        due("31 day 99", late.lookLeaves(), 49);
+        BrassYear latest = with("brass oil 0 slips 0;wheel a bead teeth 50 by 1 at 2;suspect a;jerked day 99");
+        due("28 jerked on day 99", latest.fits(), 2);
+        due("29 jerked on day 99", latest.fitAt(1), 3);
+        due("30 tooth 3 is met on day 1 already", latest.look(), 1);
+        due("31 one of two", latest.lookLeaves(), 1);
         BrassYear bare = with(BARE);
         refused("28 no suspect", bare, bare.fits(), 6);
         refused("29 no suspect", bare, bare.fitAt(0), 6);
