@@ -216,6 +216,8 @@ public final class ModelTest {
             String text = sound(r);
             if (r.nextInt(3) == 0) {
                 text = spoilt(text, r);
+            } else if (r.nextInt(15) == 0) {
+                text = soup(r);
             }
             return text.length() > 900 ? text.substring(0, 900) : text;
         }
@@ -275,6 +277,18 @@ public final class ModelTest {
                 }
             }
             return String.join(r.nextInt(4) == 0 ? " ; " : ";", lines);
+        }
+
+        private static String soup(Random r) {
+            String[] pieces = {"brass oil 1 slips 2", "wheel wa planet teeth 5 by 1 at 0", ";", ";", ";", ",", "gone wa", "3",
+                "feast fa wa at 1", "feast", "fa", "wa", "at", "day 7", "jerked", "smooth day 8", "suspect wa", "sky fa",
+                "every 5 from 6", "work ha takes 4 worth 4 by fa", "wheel", "wb", "moon", "teeth", "abcdefgh", "abcdefghi",
+                "0", "007", "9999", "?"};
+            StringBuilder text = new StringBuilder(r.nextInt(4) == 0 ? "" : "brass oil 5 slips 5;wheel wa bead teeth 6 by 2 at 5;");
+            for (int i = r.nextInt(12); i > 0; i--) {
+                text.append(pieces[r.nextInt(pieces.length)]).append(r.nextInt(3) == 0 ? " " : r.nextInt(2) == 0 ? ";" : "");
+            }
+            return text.toString();
         }
 
         private static String name(int sort, int number) {
