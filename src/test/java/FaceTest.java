@@ -3,30 +3,27 @@ import java.lang.reflect.Constructor;
 import java.lang.reflect.Field;
 import java.lang.reflect.Method;
 import java.lang.reflect.Modifier;
+import java.nio.file.Files;
+import java.nio.file.Path;
+import java.util.ArrayList;
 import java.util.Arrays;
+import java.util.List;
 import java.util.Set;
 import java.util.TreeSet;
 
-/** The class has the document's face and no other, and its calls make no objects (all calls live in one room). */
+/**
+ * The class has the face that the document's own lines tell, and no other, and its calls make no objects (all calls
+ * live in one room).
+ */
 public final class FaceTest {
-    private static final String FACE = "int agree(int); boolean back(int); int byFor(int,int); int byIn(int,int);"
-            + " int comesRound(int); int drift(int); int fault(); int feed(int,int,int,int,int); int fitAt(int);"
-            + " int fits(); int idle(int); int image(); int inTime(); int isGone(int,int); int jerks(int,int);"
-            + " long jerkMean(int,int,boolean); int judge(int); int led(int); long likely(int,int,int,boolean);"
-            + " int lineAt(int); int lineWorth(); int longestGap(int); int look(); int lookLeaves(); int meet(int,int);"
-            + " int moves(int,int); int next(int); int now(int); int often(int,int); int oil(int); int orrery(int);"
-            + " boolean set(int,int); int setFor(int,int,int); int settings(int,int); int size(int); int slips(int,int);"
-            + " int soonest(); int toothIn(int,int); int trouble(); int turn(); int turnBack(); boolean undo();"
-            + " int value(int,int); int wheel(int,int); int where(); int work(int,int); int yearFeasts(int,int,int);"
-            + " int years(int,int,int)";
     private static final String TEXT = "brass oil 3 slips 25;wheel p planet teeth 60 by 7 at 0;wheel m moon teeth 59 by 1 at 4;"
             + "wheel t thimble teeth 8 by 3 at 1;wheel b bead teeth 53 by 1 at 0;gone p 4;gone m 2;feast pp p at 2;"
             + "feast pm p at 5,m at 0;feast tt t at 2;feast pb p at 0,b at 0;work one takes 1 worth 5 by pp;"
             + "work two takes 2 worth 7 by pm;sky pp every 5 from 2;suspect b;smooth day 1;jerked day 3";
     private static int wrong = 0;
 
-    public static void main(String[] args) {
-        lookAtMembers();
+    public static void main(String[] args) throws Exception {
+        lookAtMembers(toldFace());
         lookAtObjects();
         System.out.println(wrong == 0 ? "the face is the document's, and calls make no objects" : wrong + " wrong");
         if (wrong != 0) {
@@ -41,22 +38,54 @@ public final class FaceTest {
         }
     }
 
-    private static void lookAtMembers() {
+    /** The public lines of the document's face, without the names of parameters. */
+    private static Set<String> toldFace() throws Exception {
         Set<String> face = new TreeSet<>();
-        Set<String> publicNames = new TreeSet<>();
-        Set<String> otherNames = new TreeSet<>();
-        for (Method method : BrassYear.class.getDeclaredMethods()) {
-            if (Modifier.isPrivate(method.getModifiers())) {
-                otherNames.add(method.getName());
-            } else {
-                String types = Arrays.toString(Arrays.stream(method.getParameterTypes()).map(Class::getName).toArray());
-                face.add(method.getReturnType() + " " + method.getName() + "("
-                        + types.substring(1, types.length() - 1).replace(" ", "") + ")");
-                publicNames.add(method.getName());
-                check(Modifier.isPublic(method.getModifiers()), method + " is neither public nor private");
+        boolean inside = false;
+        for (String line : Files.readAllLines(Path.of("../shared/DOC.md"))) {
+            inside = line.startsWith("public final class BrassYear") || inside && !line.equals("}");
+            if (inside && line.startsWith("    public ")) {
+                face.add(line.trim().replaceAll("(int|boolean) \\w+(?=[,)])", "$1"));
             }
         }
-        check(face.equals(new TreeSet<>(Arrays.asList(FACE.split("; ")))), "the face is " + face);
+        check(face.size() == 50, "the document's face has " + face.size() + " lines");
+        return face;
+    }
+
+    private static void lookAtMembers(Set<String> told) throws Exception {
+        Set<String> face = new TreeSet<>();
+        for (Method method : BrassYear.class.getDeclaredMethods()) {
+            if (!Modifier.isPrivate(method.getModifiers())) {
+                face.add(Modifier.toString(method.getModifiers()) + " " + method.getReturnType() + " " + method.getName()
+                        + "(" + names(method.getParameterTypes()) + ")"
+                        + (method.getExceptionTypes().length == 0 ? "" : " throws " + names(method.getExceptionTypes())) + ";");
+            }
+        }
+        for (Constructor<?> each : BrassYear.class.getDeclaredConstructors()) {
+            face.add(Modifier.toString(each.getModifiers()) + " BrassYear(" + names(each.getParameterTypes()) + ");");
+        }
+        for (Field field : BrassYear.class.getDeclaredFields()) {
+            if (!Modifier.isPrivate(field.getModifiers())) {
+                face.add(Modifier.toString(field.getModifiers()) + " " + field.getType() + " " + field.getName() + " = "
+                        + field.get(null) + ";");
+            }
+        }
+        Set<String> more = new TreeSet<>(face);
+        more.removeAll(told);
+        told.removeAll(face);
+        check(more.isEmpty() && told.isEmpty(), "the face has " + more + ", but not " + told);
+        check(Modifier.toString(BrassYear.class.getModifiers()).equals("public final"), "the class isn't public and final");
+        check(BrassYear.class.getInterfaces().length == 0 && BrassYear.class.getSuperclass() == Object.class,
+                "the class is of other sorts, too");
+        lookAtNames();
+    }
+
+    private static void lookAtNames() {
+        Set<String> publicNames = new TreeSet<>();
+        List<String> otherNames = new ArrayList<>();
+        for (Method method : BrassYear.class.getDeclaredMethods()) {
+            (Modifier.isPrivate(method.getModifiers()) ? otherNames : publicNames).add(method.getName());
+        }
         for (Class<?> inside : BrassYear.class.getDeclaredClasses()) {
             check(Modifier.isStatic(inside.getModifiers()), inside + " isn't static");
             for (Method method : inside.getDeclaredMethods()) {
@@ -65,15 +94,10 @@ public final class FaceTest {
         }
         otherNames.retainAll(publicNames);
         check(otherNames.isEmpty(), "other methods bear public names: " + otherNames);
-        for (Field field : BrassYear.class.getDeclaredFields()) {
-            boolean isNone = field.getName().equals("NONE") && Modifier.isPublic(field.getModifiers());
-            check(isNone || Modifier.isPrivate(field.getModifiers()), field + " isn't private");
-            check(!Modifier.isStatic(field.getModifiers()) || Modifier.isFinal(field.getModifiers()), field + " isn't final");
-        }
-        Constructor<?>[] constructors = BrassYear.class.getDeclaredConstructors();
-        check(constructors.length == 1 && Modifier.isPublic(constructors[0].getModifiers())
-                && constructors[0].getParameterCount() == 0, "the constructors are " + Arrays.toString(constructors));
-        check(Modifier.isFinal(BrassYear.class.getModifiers()), "the class isn't final");
+    }
+
+    private static String names(Class<?>[] types) {
+        return String.join(", ", Arrays.stream(types).map(Class::getSimpleName).toArray(String[]::new));
     }
 
     private static void lookAtObjects() {

@@ -17,7 +17,8 @@ import java.util.TreeSet;
 
 /**
  * Makes the same calls, chosen by chance from fixed seeds, on a BrassYear and on a model of the document that
- * goes day by day and tries every case, and tells every answer in which they differ.
+ * goes day by day and tries every case, and tells every answer in which they differ. Ahead of that, it tells both
+ * every text that is one token or one line away from two sound ones.
  */
 public final class ModelTest {
     private static final int RUNS = Integer.getInteger("runs", 1500);
@@ -26,12 +27,101 @@ public final class ModelTest {
     private static int calls = 0;
 
     public static void main(String[] args) throws Exception {
+        for (String text : SOUND) {
+            everyToken(text.split(" "));
+            everyLine(text.split(" ; "));
+        }
+        System.out.println(texts + " texts one token or line away from a sound one compared with the model, " + wrong
+                + " differ; by faults, 0 to 7: " + Arrays.toString(textsByFault));
+        for (int each : textsByFault) {
+            wrong += each < 30 ? 1 : 0;
+        }
         for (int run = 0; run < RUNS && wrong < 20; run++) {
             oneRun(run);
         }
         System.out.println(calls + " calls compared with the model, " + wrong + " differ");
         if (wrong != 0) {
             System.exit(1);
+        }
+    }
+
+    /** Every sort of line; the second has as many lines, teeth gone and wheels of a feast as there is room for. */
+    private static final String[] SOUND = {
+        "brass oil 5 slips 5 ; wheel a planet teeth 9 by 1 at 0 ; wheel b moon teeth 9 by 1 at 0 ; gone a 1 ; feast f a at 1 ,"
+                + " b at 2 ; work k takes 1 worth 1 by f ; sky f every 1 from 1 ; suspect b ; jerked day 1 ; smooth day 2",
+        "brass oil 0 slips 0 ; wheel a bead teeth 4 by 3 at 3 ; wheel b moon teeth 5 by 4 at 0 ; wheel c thimble teeth 60 by 9"
+                + " at 59 ; wheel d planet teeth 4 by 1 at 0 ; wheel e moon teeth 4 by 1 at 0 ; gone a 3 ; gone a 0 ; suspect e ;"
+                + " jerked day 1 ; smooth day 9 ; smooth day 99 ; jerked day 3 ; jerked day 4 ; feast f a at 3 , b at 0 , c at 0 ,"
+                + " d at 0 , e at 3 ; feast g c at 59 ; feast h a at 0 ; feast i b at 4 ; sky f every 400 from 400 ;"
+                + " work k takes 99 worth 99 by f ; work l takes 1 worth 0 by g ; work m takes 1 worth 1 by f ;"
+                + " work n takes 1 worth 1 by i"};
+    private static final String[] TOKENS = ("brass wheel gone feast work sky suspect jerked smooth oil slips planet moon thimble bead"
+            + " teeth by at takes worth every from day a b c e f g k zz abcdefgh abcdefghi 0 1 2 3 4 5 8 9 10 59 60 61 99 100 101"
+            + " 400 401 999 0001 1000 ; , ? A").split(" ");
+    private static final String[] LINES = {"gone a 2", "gone b 1", "gone e 1", "gone d 1 ; gone d 2 ; gone d 3", "suspect a",
+        "suspect b", "wheel z planet teeth 5 by 1 at 0", "feast z a at 1", "work z takes 1 worth 1 by f", "sky g every 1 from 1",
+        "jerked day 5", "smooth day 50"};
+    private static int texts = 0;
+    private static final int[] textsByFault = new int[8];
+
+    /** Leaves each token out, ends the text ahead of it, puts each other token in its place, and ahead of it. */
+    private static void everyToken(String[] sound) {
+        if (Tapes.tell(new BrassYear(), String.join(" ", sound)) < 1) {
+            wrong++;
+            System.out.println("a text has a fault that should have none: " + String.join(" ", sound));
+        }
+        for (int i = 0; i <= sound.length; i++) {
+            String ahead = String.join(" ", Arrays.copyOf(sound, i)) + " ";
+            String from = String.join(" ", Arrays.copyOfRange(sound, i, sound.length));
+            String behind = i == sound.length ? "" : String.join(" ", Arrays.copyOfRange(sound, i + 1, sound.length));
+            compareText(ahead);
+            compareText(ahead + behind);
+            for (String token : TOKENS) {
+                compareText(ahead + token + " " + behind);
+                compareText(ahead + token + " " + from);
+            }
+        }
+    }
+
+    /** Puts each line of the text, and others, ahead of each line once more, and moves each line to each place. */
+    private static void everyLine(String[] sound) {
+        for (int i = 0; i <= sound.length; i++) {
+            for (String line : LINES) {
+                compareText(withLine(List.of(sound), i, line));
+            }
+            for (int k = 0; k < sound.length; k++) {
+                compareText(withLine(List.of(sound), i, sound[k]));
+                List<String> others = new ArrayList<>(List.of(sound));
+                others.remove(k);
+                compareText(withLine(others, Math.min(i, others.size()), sound[k]));
+            }
+        }
+    }
+
+    private static String withLine(List<String> lines, int at, String line) {
+        List<String> more = new ArrayList<>(lines);
+        more.add(at, line);
+        return String.join(";", more);
+    }
+
+    private static void compareText(String text) {
+        BrassYear x = new BrassYear();
+        Model model = new Model();
+        Tapes.tell(x, text);
+        model.tape = text.getBytes(StandardCharsets.ISO_8859_1);
+        model.orrery(text.length());
+        StringBuilder got = new StringBuilder();
+        StringBuilder due = new StringBuilder();
+        got.append(x.trouble()).append(' ').append(x.fault()).append(' ').append(x.where());
+        due.append(model.trouble()).append(' ').append(model.fault()).append(' ').append(model.where());
+        for (int what = 0; what <= 10; what++) {
+            got.append(' ').append(x.size(what));
+            due.append(' ').append(model.size(what));
+        }
+        texts++;
+        textsByFault[model.fault()]++;
+        if (!got.toString().equals(due.toString()) && ++wrong < 20) {
+            System.out.println("text '" + text + "': trouble, fault, where and sizes are " + got + ", due are " + due);
         }
     }
 
